@@ -121,7 +121,9 @@ final class PromiseTest {
             c.same("acts", x.count(4), 0);
             c.same("LAW", x.count(0), 2);
             c.same("none then", Feeder.house(x, ""), 0);
-            c.same("VERSIONS", x.count(2), 0);
+            for (int what = 0; what < 6; what++) {
+                c.same("count(" + what + ")", x.count(what), 0);
+            }
             c.same("ledger", x.ledger(), -2);
         });
         test("4 house: the tokens", c -> {
@@ -158,6 +160,13 @@ final class PromiseTest {
             faulty(c, "house law 0 balance 2;;", 1, 22);
             faulty(c, "house law 0 balance 2;house law 0 balance 2;", 1, 22);
             faulty(c, "house law 0 balance 2;puts 0 1;", 1, 22);
+            faulty(c, "house law 0 balance 2;putz 0 1;", 1, 22);
+            faulty(c, "house law 0 balance 2;puta 0 1;", 1, 22);
+            faulty(c, "house law 0 balance 2;put{0 1;", 1, 25);
+            faulty(c, "house law 0 balance 2;put`0 1;", 1, 25);
+            faulty(c, "house law 0 balance 2;put 0 1:", 1, 29);
+            faulty(c, "house law 0 balance 2;put 0 1/", 1, 29);
+            faulty(c, "house law 0 balance 2;put 9", 2, 26);
             faulty(c, "house law 0 balance 2;put 0 1 1;", 1, 30);
             faulty(c, "house law 0 balance 2;put 0;", 1, 27);
             faulty(c, "house law 0 balance 2;take put;", 1, 27);
@@ -419,6 +428,7 @@ final class PromiseTest {
             c.same("i below 0", x.origin(8, 5, -1), -2);
             c.same("no such ROW", x.origin(8, 6, 0), -2);
             c.same("no such VERSION", x.origin(10, 0, 0), -2);
+            c.same("the first CELL of all", Feeder.housed(EVENS).origin(1, 1, 0), 0);
         });
         test("the ROWS by LAW 1", c -> {
             TurnQueues x = Feeder.housed(JOINS);
@@ -613,6 +623,12 @@ final class PromiseTest {
         });
         test("36 balance", c -> {
             c.same("3 and 4 are as few: the least", Feeder.housed(EVENS).balance(), 3);
+            TurnQueues x = Feeder.housed("house law 2 balance 2;"
+                    + "fore 0 1;fore 1 1;fore 2 1;fore 3 1;fore 4 1;fore 5 1;fore 6 1;");
+            c.same("balanced(2)", x.balanced(2), 1 + 1 + 3 + 1 + 1 + 3 + 3);
+            c.same("balanced(3)", x.balanced(3), 1 + 1 + 3 + 1 + 1 + 1 + 3);
+            c.same("balanced(4)", x.balanced(4), 1 + 1 + 3 + 1 + 1 + 1 + 1);
+            c.same("the last one is the least", x.balance(), 4);
             c.same("none", Feeder.housed("house law 1 balance 4;").balance(), 2);
             c.same("no HOUSE", new TurnQueues().balance(), -2);
         });
@@ -674,6 +690,27 @@ final class PromiseTest {
             c.same("LAW 0", Feeder.housed(PLAIN).rest(3), 0);
             c.same("no HOUSE", new TurnQueues().rest(0), -2);
         });
+        test("38 rest, 40 at most", c -> {
+            TurnQueues x = Feeder.housed("house law 2 balance 2;");
+            for (int v = 0; v < 8; v++) {
+                x.put(v, 1);
+            }
+            for (int v = 8; v < 46; v++) {
+                x.fore(v, 1);
+            }
+            c.same("FRONT", x.row(46, 0), 31);
+            c.same("BACK", x.row(46, 1), 15);
+            x.last(46);
+            c.same("evened, FRONT", x.state(47, 3), 22);
+            c.same("evened, BACK", x.state(47, 4), 23);
+            for (int v = 47; v < 52; v++) {
+                x.take(v);
+            }
+            // 13 puts, the last of which pays all and evens 53 numbers; 27 more pay these.
+            c.same("rest(52)", x.rest(52), 40);
+            c.same("until(52)", x.until(52), 13);
+            c.same("15 and 28", x.rest(51), NONE);
+        });
         test("39 worst", c -> {
             TurnQueues x = Feeder.housed(PLAIN);
             int[][] due = {{3, 3, 2}, {4, 5, 4}, {5, 7, 8}};
@@ -703,6 +740,8 @@ final class PromiseTest {
             c.same("worstAt(3, 7, 0)", x.worstAt(3, 7, 0), -2);
             c.same("worstAt(3, 0, 0)", x.worstAt(3, 0, 0), -2);
             c.same("worstAt(6, 1, 0)", x.worstAt(6, 1, 0), -2);
+            c.same("worstAt(3, 6, 5), behind five puts", x.worstAt(3, 6, 5), 1);
+            c.same("worstAt(3, 6, 4), a put", x.worstAt(3, 6, 4), 0);
             // From VERSION 4 (FRONT 6 7) put and take cost 1 alike: the first row is of puts.
             c.same("the first of several", x.worstAt(4, 1, 0), 0);
             // put put take take turns two: 1, 1, 1, 3; put take take put less.
@@ -735,6 +774,11 @@ final class PromiseTest {
             // 5 (pays 2, 2), then FRONT 3: 2 (pays 1), then FRONT none, BACK 5 4, evened: 1; 3 (pays 1, 1), 1.
             c.same("LAW 2", x.drain(5), 5 + 2 + 1 + 3 + 1);
             c.same("VERSIONS", x.count(2), 11);
+            Feeder.house(x, "house law 0 balance 2;");
+            for (int v = 0; v < 60; v++) {
+                x.put(v, 1);
+            }
+            c.same("all sixty: one, which turns 59, and 59 more", x.drain(60), 1 + 59 + 59);
         });
     }
 
