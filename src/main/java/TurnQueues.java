@@ -728,7 +728,7 @@ public final class TurnQueues {
 
         int madeOf(int version) {
             int children = 0;
-            for (int deed = 0; hasDeed(deed); deed++) {
+            for (int deed = 0; deed < MOST_DEEDS && hasDeed(deed); deed++) {
                 children += bases[deed] == version ? 1 : 0;
             }
             return children;
@@ -739,7 +739,7 @@ public final class TurnQueues {
             if (!housed || other < AT_ONCE || other > EVENING) {
                 return MISSING;
             }
-            for (int deed = 0; other != EVENING && hasDeed(deed); deed++) {
+            for (int deed = 0; deed < MOST_DEEDS && other != EVENING && hasDeed(deed); deed++) {
                 if (kinds[deed] == FORE || kinds[deed] == LAST) {
                     return NONE;
                 }
@@ -1291,7 +1291,7 @@ public final class TurnQueues {
             deeds.become(others);
             cells.made = 0;
             mill.obey(deeds.law, deeds.ratio);
-            for (int deed = 0; deeds.hasDeed(deed); deed++) {
+            for (int deed = 0; deed < MOST_DEEDS && deeds.hasDeed(deed); deed++) {
                 enact(deed);
             }
         }
@@ -1418,7 +1418,7 @@ public final class TurnQueues {
 
         int stepsOfAll() {
             int sum = 0;
-            for (int deed = 0; deeds.hasDeed(deed); deed++) {
+            for (int deed = 0; deed < MOST_DEEDS && deeds.hasDeed(deed); deed++) {
                 sum += spent[deed];
             }
             return sum;
@@ -1427,7 +1427,7 @@ public final class TurnQueues {
         int dearestDeed() {
             int dearest = NONE;
             int most = 0;
-            for (int deed = 0; deeds.hasDeed(deed); deed++) {
+            for (int deed = 0; deed < MOST_DEEDS && deeds.hasDeed(deed); deed++) {
                 if (spent[deed] > most) {
                     most = spent[deed];
                     dearest = deed;
@@ -1438,7 +1438,7 @@ public final class TurnQueues {
 
         int overdueDeeds() {
             int many = 0;
-            for (int deed = 0; deeds.hasDeed(deed); deed++) {
+            for (int deed = 0; deed < MOST_DEEDS && deeds.hasDeed(deed); deed++) {
                 many += late[deed] ? 1 : 0;
             }
             return many;
@@ -1451,7 +1451,7 @@ public final class TurnQueues {
         int heldBySet(long set) {
             int many = 0;
             cells.unmarkAll();
-            for (int version = 0; deeds.hasVersion(version); version++) {
+            for (int version = 0; version < MOST_VERSIONS && deeds.hasVersion(version); version++) {
                 if ((set >>> version & 1L) != 0L) {
                     many += cells.markState(states[version], NONE);
                 }
@@ -1553,9 +1553,10 @@ public final class TurnQueues {
             mill.obey(law, ratio);
             most = 0;
             int sum = 0;
-            for (int deed = 0; deeds.hasDeed(deed) && deeds.hasVersion(deeds.bases[deed]); deed++) {
+            for (int deed = 0; deed < MOST_DEEDS && deeds.hasDeed(deed); deed++) {
+                int base = deeds.bases[deed];
                 State state = tree[deed + 1];
-                state.become(tree[deeds.bases[deed]]);
+                state.become(tree[deeds.hasVersion(base) ? base : 0]);
                 int spent = mill.perform(state, deeds.kinds[deed], 0, NONE);
                 most = Math.max(most, spent);
                 sum += spent;
