@@ -1050,6 +1050,8 @@ final class EdgeTest {
     private void cellPromises() {
         promise(22, "The DEED that made the CELL of the i-th number (from 0) of a ROW", TURNS, """
                 origin(1, 0, 0) = 0
+                origin(2, 0, 0) = 0
+                origin(2, 1, 0) = 1
                 // FRONT 1 2 3: the 1 by DEED 3, which joined it; 2 and 3 by DEED 2, which turned them.
                 origin(6, 0, 0..2) = 3 2 2
                 origin(6, 1, 0..2) = 5 4 3
@@ -1057,6 +1059,9 @@ final class EdgeTest {
                 origin(8, 5, 0..3) = 7 7 6 6
                 put(9, 1) = 10
                 origin(10, 1, 0) = 9
+                """, EVENS, """
+                // The first CELL of all.
+                origin(1, 1, 0) = 0
                 """);
         promise(22, "NONE, -2 as cell()", TURNS, """
                 origin(8, 5, 4) = NONE
@@ -1227,6 +1232,10 @@ final class EdgeTest {
                 dearest() = 0
                 """, EVENS, """
                 dearest() = 5
+                """, """
+                // One STEP each.
+                house "house law 2 balance 2;put 0 1;put 0 2;" = 3
+                dearest() = 0
                 """);
         promise(31, "NONE: there are none; -2 likewise", """
                 dearest() = -2
@@ -1292,6 +1301,8 @@ final class EdgeTest {
                 by(0..3) = NONE NONE 2 -2
                 house "house law 2 balance 2;put 0 1;last 1;" = 3
                 by(0..3) = NONE NONE 2 -2
+                house "house law 2 balance 2;fore 0 1;" = 2
+                by(0..3) = NONE NONE 1 -2
                 by(-1) = -2
                 // Neither fore nor last: LAW 2 itself is no hindrance.
                 house "house law 2 balance 2;put 0 1;take 1;" = 3
@@ -1474,6 +1485,16 @@ final class EdgeTest {
                 worst(0, 1..6, 2) = 1 2 3 6 10 20
                 worst(1, 1..2, 2) = 2 3
                 count(2) = 6
+                """, TURNS, """
+                // LAW 1: VERSION 5 has COUNT 3, two in BACK: any two DEEDS begin TURNING by the second one.
+                worst(5, 1, 0..2) = 1 1 2
+                worst(5, 2, 0..2) = 3 4 4
+                worst(7, 1, 0..2) = 3 3 2
+                """, EVENS, """
+                // LAW 2, owing 3 and 2: put 3; take 5; put put 6, all others of two 7.
+                worst(5, 1, 0..2) = 5 5 2
+                worst(5, 2, 0..2) = 5 7 4
+                worst(0, 1..6, 2) = 1 2 3 6 10 20
                 """);
         promise(39, "-2: there are none such", PLAIN, """
                 worst(3, 0, 0..2) = -2 -2 -2
@@ -1495,6 +1516,11 @@ final class EdgeTest {
                 worstAt(4, 2, 0..1) = 0 0
                 worstAt(4, 4, 0..3) = 0 0 1 1
                 worstAt(0, 1, 0) = 0
+                """, TURNS, """
+                worstAt(5, 2, 0..1) = 0 0
+                """, EVENS, """
+                worstAt(5, 1, 0) = 1
+                worstAt(5, 2, 0..1) = 0 1
                 """);
         promise(40, "NONE: i is n or more; -2 likewise (i below 0, too)", PLAIN, """
                 worstAt(3, 2, 1..3) = 1 NONE NONE
@@ -1514,11 +1540,18 @@ final class EdgeTest {
                 // put put take turns one; put put put take two.
                 spike(0, 3..5) = 4 5 6
                 count(2) = 6
+                """, TURNS, """
+                spike(5, 1..3) = 1 2 2
+                // COUNT 5 and none in BACK: six DEEDS, whichever they are.
+                spike(9, 1..3) = 1 6 6
+                """, EVENS, """
+                spike(5, 1..5) = 1 1 1 1 1
                 """);
         promise(41, "NONE: not by 6; -2: there are none such", PLAIN, """
                 spike(3, 9) = NONE
                 spike(3, max) = NONE
                 spike(0, 6) = NONE
+                spike(0, 0) = -2
                 spike(3, 0) = -2
                 spike(3, -1) = -2
                 spike(3, min) = -2
@@ -1528,6 +1561,10 @@ final class EdgeTest {
         promise(42, "STEPS to take all numbers of a VERSION, one by one", PLAIN, """
                 drain(0..5) = 0 1 3 5 2 3
                 count(2) = 6
+                """, TURNS, """
+                drain(9) = 5
+                // 3 (TURNING), 3 (JOINING), 1 (READY by the take itself), 1, 1, 1.
+                drain(6) = 10
                 """, EVENS, """
                 // 5 (pays 2, 2), 2 (pays 1), 1 (evened: f 4|b 5), 3 (pays 1, 1), 1.
                 drain(5) = 12
@@ -1608,6 +1645,9 @@ final class EdgeTest {
                 walk(3) "tttp" = 7
                 count(2..4) = 6 5 0
                 spent(5) = -2
+                """, TURNS, """
+                // 3, 1, 3, and a take of joining 1, which is READY by the first TURN.
+                walk(0) "pppt" = 9
                 """, EVENS, """
                 walk(0) "ppflt" = 9
                 walk(5) "l" = 5
@@ -1668,6 +1708,12 @@ final class EdgeTest {
                 grafting(5, 5, 2, 0..3) = 0 0 NONE 2
                 count(2..4) = 6 5 0
                 made() = 5
+                """, TURNS, """
+                // put (3), take (1), and a take of none.
+                grafting(6, 9, 0, 0..3) = 3 4 8 0
+                """, EVENS, """
+                // take, last, last once more.
+                grafting(5, 8, 5, 0..3) = 3 8 NONE 2
                 """);
         promise(46, "NONE: the second was not made of the first", WAYS, """
                 grafting(2, 5, 0, 0..3) = NONE NONE NONE NONE
@@ -1703,6 +1749,7 @@ final class EdgeTest {
                 grafted(1, 4, 1, max) = NONE
                 grafted(2, 4, 0, 0) = NONE
                 grafted(0, 0, 0, 0) = NONE
+                grafted(0, 0, 2, 0) = 5
                 grafted(2, 5, 2, 0) = NONE
                 grafted(4, 1, 2, 0) = NONE
                 """);
@@ -1983,6 +2030,10 @@ final class EdgeTest {
                 // There are none.
                 anew() = 0
                 count(2) = 10
+                new
+                """, TURNS, """
+                anew() = 0
+                made() = 20
                 """);
         promise(56, "-2 likewise", """
                 anew() = -2
