@@ -29,12 +29,13 @@ import javax.tools.ToolProvider;
 /** The rules of LANGUAGE.md that can be seen in the source; the rule's number stands in each test's name. */
 final class LanguageTest {
     private static final Path SOURCE = Path.of("src/main/java/TurnQueues.java");
-    private static final Path DOCUMENT = Path.of("../shared/DOC.md");
 
     private static final Set<Tree.Kind> FORBIDDEN = EnumSet.of(Tree.Kind.THROW, Tree.Kind.TRY, Tree.Kind.CATCH,
             Tree.Kind.SYNCHRONIZED, Tree.Kind.ASSERT, Tree.Kind.LAMBDA_EXPRESSION, Tree.Kind.MEMBER_REFERENCE,
             Tree.Kind.INSTANCE_OF, Tree.Kind.IMPORT, Tree.Kind.PACKAGE, Tree.Kind.ANNOTATION,
             Tree.Kind.SWITCH_EXPRESSION, Tree.Kind.LABELED_STATEMENT);
+    private static final Set<Tree.Kind> COMPARISONS = EnumSet.of(Tree.Kind.LESS_THAN, Tree.Kind.LESS_THAN_EQUAL,
+            Tree.Kind.GREATER_THAN, Tree.Kind.GREATER_THAN_EQUAL);
     private static final Set<String> LIBRARY = Set.of("String.length", "String.charAt", "Math.min", "Math.max");
     private static final int DEEPEST = 8;
 
@@ -46,6 +47,7 @@ final class LanguageTest {
     private final Set<String> made = new TreeSet<>();
     private final Set<String> dividedBy = new TreeSet<>();
     private final Set<String> types = new TreeSet<>();
+    private final Set<String> endless = new TreeSet<>();
     private final List<TypeElement> classes = new ArrayList<>();
     private String source;
     private Trees trees;
@@ -148,6 +150,30 @@ final class LanguageTest {
         }
 
         @Override
+        public Void visitForLoop(ForLoopTree tree, Void nothing) {
+            noteLoop(tree.getCondition());
+            return super.visitForLoop(tree, nothing);
+        }
+
+        @Override
+        public Void visitWhileLoop(WhileLoopTree tree, Void nothing) {
+            noteLoop(tree.getCondition());
+            return super.visitWhileLoop(tree, nothing);
+        }
+
+        @Override
+        public Void visitDoWhileLoop(DoWhileLoopTree tree, Void nothing) {
+            noteLoop(tree.getCondition());
+            return super.visitDoWhileLoop(tree, nothing);
+        }
+
+        private void noteLoop(ExpressionTree condition) {
+            if (condition == null || !isBounded(condition)) {
+                endless.add(String.valueOf(condition));
+            }
+        }
+
+        @Override
         public Void visitBinary(BinaryTree tree, Void nothing) {
             if (tree.getKind() == Tree.Kind.DIVIDE || tree.getKind() == Tree.Kind.REMAINDER) {
                 dividedBy.add(tree.getRightOperand().toString());
@@ -159,12 +185,25 @@ final class LanguageTest {
         }
     }
 
+    /** Whether the loop ends at the latest where a counter meets its bound. */
+    private static boolean isBounded(ExpressionTree condition) {
+        if (condition instanceof ParenthesizedTree inner) {
+            return isBounded(inner.getExpression());
+        }
+        if (condition.getKind() == Tree.Kind.CONDITIONAL_AND) {
+            BinaryTree both = (BinaryTree) condition;
+            return isBounded(both.getLeftOperand()) || isBounded(both.getRightOperand());
+        }
+        boolean compares = COMPARISONS.contains(condition.getKind());
+        return compares && ((BinaryTree) condition).getLeftOperand() instanceof IdentifierTree;
+    }
+
     private static String className(Element e) {
         return e.getSimpleName().toString();
     }
 
     private static List<String> face() throws Exception {
-        String text = Files.readString(DOCUMENT);
+        String text = Files.readString(Document.PLACE);
         int start = text.indexOf("```java");
         String block = text.substring(start, text.indexOf("```", start + 7));
         List<String> face = new ArrayList<>();
@@ -284,6 +323,11 @@ final class LanguageTest {
         check.test("rule 7: every divisor is a number that stands there", c -> {
             for (String divisor : dividedBy) {
                 c.truth("divided by " + divisor, divisor.matches("[1-9][0-9]*"));
+            }
+        });
+        check.test("rule 9: every loop holds a counter against a bound", c -> {
+            for (String condition : endless) {
+                c.truth("loop while " + condition, false);
             }
         });
         check.test("rule 12: only constructors make objects and arrays", c -> {
